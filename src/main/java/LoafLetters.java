@@ -26,7 +26,7 @@ public final class LoafLetters {
         undoable = new Shelf(UNDO_MOST);
         kept = new Shelf(KEPT_MOST);
         reach = new Reach();
-        search = new CodeSearch();
+        search = new CodeSearch(reach);
         laid = new Valley();
         draft = new Valley();
         laid.addWord(1, 0, 0, 5);
@@ -917,11 +917,15 @@ public final class LoafLetters {
 
     /** Looks for the signs of least flour that stay apart. */
     private static final class CodeSearch {
-        private final Reach reach = new Reach();
+        private final Reach reach;
         private final int[] chosen = new int[CODE_MOST];
         private final int[] best = new int[CODE_MOST];
         private int wanted;
         private int least;
+
+        CodeSearch(Reach reach) {
+            this.reach = reach;
+        }
 
         boolean find(Valley valley, int k, int days, int bites) {
             for (int sign = 0; sign < SIGNS; sign++) {

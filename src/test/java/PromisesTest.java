@@ -206,6 +206,11 @@ public final class PromisesTest {
             due("6 word(" + w + ", 1)", x.word(w, 1), worths[w]);
             due("6 word(" + w + ", 2)", x.word(w, 2), flours[w]);
         }
+        LoafLetters filled = Due.laid("w0,0,1,0;w0,0,2,0;w0,3,0,0;");
+        due("6 word(0, 0) of a filling alone", filled.word(0, 0), 24);
+        due("6 word(0, 2) of a filling alone", filled.word(0, 2), 4);
+        due("6 word(1, 2) of a filling alone", filled.word(1, 2), 7);
+        due("6 word(2, 2) of cuts alone", filled.word(2, 2), 7);
         due("6 word(3, 0)", x.word(3, 0), BAD);
         due("6 word(-1, 0)", x.word(-1, 0), BAD);
         due("6 word(0, 3)", x.word(0, 3), BAD);
@@ -458,6 +463,10 @@ public final class PromisesTest {
         due("15 can(7, 71, 20, 3)", x.can(7, 71, 20, 3), 0);
         due("15 can(71, 70, 2, 0)", x.can(71, 70, 2, 0), 0);
         due("15 can(71, 70, 3, 0)", x.can(71, 70, 3, 0), 1);
+        for (int sign = 0; sign < 72; sign++) {
+            due("15 can(" + sign + ", itself, 0, 0)", x.can(sign, sign, 0, 0), 1);
+            due("15 can(" + sign + ", another, 0, 0)", x.can(sign, (sign + 8) % 72, 0, 0), 0);
+        }
         due("15 can(0, 72, 0, 0)", x.can(0, 72, 0, 0), BAD);
         due("15 can(0, -1, 0, 0)", x.can(0, -1, 0, 0), BAD);
         due("15 can(0, MOST, 0, 0)", x.can(0, MOST, 0, 0), BAD);
@@ -483,6 +492,8 @@ public final class PromisesTest {
         due("17 half(5, 3, 0)", x.half(5, 3, 0), 8);
         due("17 half(0, 0, 1)", x.half(0, 0, 1), 0);
         due("17 half(0, 1, 2)", x.half(0, 1, 2), 18);
+        due("17 half(0, 0, 1) of a filling alone", Due.laid("w0,0,1,0;w0,0,2,0;").half(0, 0, 1), 1);
+        due("17 half(0, 0, 2) of a filling alone", Due.laid("w0,0,1,0;w0,0,2,0;").half(0, 0, 2), 2);
         due("17 half(3, 2, 2)", x.half(3, 2, 2), 2);
         due("17 half(4, 2, 2)", x.half(4, 2, 2), 0);
         int[][] bad = {{6, 0, 0}, {-1, 0, 0}, {0, 4, 0}, {0, -1, 0}, {0, 0, 3}, {0, 0, -1}, {MOST, MOST, MOST}, {LEAST, LEAST, LEAST}};
@@ -604,6 +615,9 @@ public final class PromisesTest {
         due("22 said(0, 2)", x.said(0, 2), BAD);
         due("22 said(0, -1)", x.said(0, -1), BAD);
         due("22 said(MOST, LEAST)", x.said(MOST, LEAST), BAD);
+        due("22 said(1, 0) of WORD 0 alone", new LoafLetters().said(1, 0), 0);
+        due("22 said(2, 0) of WORD 0 alone", new LoafLetters().said(2, 0), 1);
+        due("22 said(2, 1) of WORD 0 alone", new LoafLetters().said(2, 1), 5);
         LoafLetters tie = Due.laid("w0,0,0,5;w1,0,0,5;w2,0,0,10;");
         due("22 said(3, 0): 0 and 1 (bits 3) are less than 2 (bits 4)", tie.said(3, 0), 3);
     }
