@@ -422,6 +422,10 @@ public final class PromisesTest {
         due("13 becomes(6, 0, 1)", x.becomes(6, 0, 1), 0);
         due("13 becomes(24, 0, 1)", x.becomes(24, 0, 1), 0);
         due("13 becomes(0, 20, 1): the mould's cuts are bitten off", x.becomes(0, 20, 1), 0);
+        LoafLetters daily = Due.laid("w0,0,0,0;b1,1;");
+        due("13 becomes(53, 1, 0) of b1,1;", daily.becomes(53, 1, 0), 58);
+        due("13 becomes(53, 2, 0) of b1,1;", daily.becomes(53, 2, 0), 63);
+        due("13 becomes(53, 4, 0) of b1,1;", daily.becomes(53, 4, 0), 67);
         int[][] bad = {{72, 0, 0}, {-1, 0, 0}, {0, 21, 0}, {0, -1, 0}, {0, 0, 4}, {0, 0, -1}, {MOST, MOST, MOST}, {LEAST, LEAST, LEAST}};
         for (int[] call : bad) {
             String args = "(" + call[0] + ", " + call[1] + ", " + call[2] + ")";
