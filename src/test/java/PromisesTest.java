@@ -649,11 +649,11 @@ public final class PromisesTest {
     }
 
     private static void month() {
-        // z = 0: day 0 has DRAW 1 (word 1, no days, no bites); day 1 has 6152 * 6152 modulo 65521 = 41287.
+        // z = 0: day 0 has DRAW 1 (word 1, no days, no bites); day 1 has 6152 * 6152 modulo 65521 = 41487.
         LoafLetters x = Due.laid("w0,0,0,0;w1,0,0,0;");
         due("24 month(0, 1, 0)", x.month(0, 1, 0), 1);
         due("24 month(0, 1, 1)", x.month(0, 1, 1), 0);
-        // 41287: word 1, 2580 modulo 7 = 4 days (no seed, a cut), 161 modulo 3 = 2 bites (nothing left): word 0.
+        // 41487: word 1, 2592 modulo 7 = 2 days (no seed left), 162 modulo 3 = 0 bites: word 0.
         due("24 month(0, 2, 0)", x.month(0, 2, 0), 1);
         due("24 month(0, 2, 1)", x.month(0, 2, 1), 1);
         LoafLetters one = new LoafLetters();

@@ -79,7 +79,8 @@ public final class RandomRunsTest {
     private void writeText() {
         String text = drawnText();
         int from = 0;
-        while (from < text.length()) {
+        // Behind its 512th call an object's answers are free.
+        while (from < text.length() && calls < CALLS - 2) {
             int n = Math.min(1 + random.nextInt(8), text.length() - from);
             long v = random.nextLong();
             for (int i = 0; i < n; i++) {
@@ -89,9 +90,11 @@ public final class RandomRunsTest {
             from += n;
             calls++;
         }
-        due("fault() of " + text, real.fault(), model.fault());
-        due("lay() of " + text, real.lay(), model.lay());
-        calls += 2;
+        if (calls <= CALLS - 2) {
+            due("fault() of " + text, real.fault(), model.fault());
+            due("lay() of " + text, real.lay(), model.lay());
+            calls += 2;
+        }
     }
 
     private String number(int low, int high) {
